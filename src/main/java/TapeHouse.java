@@ -178,11 +178,19 @@ public final class TapeHouse {
     }
 
     public int let(int piece, int day, int kind, int use) {
-        return isQuestion(piece, day, kind, use) ? letRule(piece, day, kind, use) : NONE;
+        if (!isQuestion(piece, day, kind, use)) {
+            return NONE;
+        }
+        Consent consent = pose(piece, day, kind, use);
+        return consent == null ? NO_RULE : consent.letBy(question);
     }
 
     public int mask(int piece, int day, int kind, int use) {
-        return isQuestion(piece, day, kind, use) ? maskRule(piece, day, kind, use) : NONE;
+        if (!isQuestion(piece, day, kind, use) || shelf.names[piece] == NONE) {
+            return NONE;
+        }
+        Consent consent = pose(piece, day, kind, use);
+        return consent == null ? NONE : consent.maskedBy(question);
     }
 
     public int would(int asker, int piece, int copy, int day, int use) {
@@ -312,7 +320,15 @@ public final class TapeHouse {
     }
 
     private static boolean isEvent(int event) {
-        return isBelow(event, EVENTS);
+        return event >= 0 && event < EVENTS;
+    }
+
+    private static boolean isVar(int token) {
+        return token >= KIND && token <= OWN;
+    }
+
+    private static boolean isOperator(int token) {
+        return token == PLUS || token == MINUS || token == TIMES;
     }
 
     private static boolean areTwoEvents(int event, int other) {
@@ -343,30 +359,17 @@ public final class TapeHouse {
         return town.consentOf(speaker);
     }
 
-    private int letRule(int piece, int day, int kind, int use) {
-        Consent consent = pose(piece, day, kind, use);
-        return consent == null ? NO_RULE : consent.letBy(question);
-    }
-
-    private int maskRule(int piece, int day, int kind, int use) {
-        if (shelf.names[piece] == NONE) {
-            return NONE;
-        }
-        Consent consent = pose(piece, day, kind, use);
-        return consent == null ? NONE : consent.maskedBy(question);
-    }
-
     private int answerTo(int asker, int piece, int copy, int day, int use) {
         int lag = isBelow(copy, copies) ? lags[copy] : 0;
         int takenOn = shelf.takenOn[piece];
         if (takenOn != NONE && takenOn + lag <= day) {
             return TAKEN;
         }
-        int kind = askers.kindOf(asker);
-        if (letRule(piece, day, kind, use) < 0) {
+        Consent consent = pose(piece, day, askers.kindOf(asker), use);
+        if (consent == null || consent.letBy(question) < 0) {
             return KEPT;
         }
-        if (maskRule(piece, day, kind, use) == NONE) {
+        if (shelf.names[piece] == NONE || consent.maskedBy(question) == NONE) {
             return NAMED;
         }
         return wouldUnmask(asker, piece) ? HIDDEN : MASKED;
@@ -508,8 +511,7 @@ public final class TapeHouse {
 
         private void takeSign(int c) {
             next++;
-            boolean equals = next < size && bytes[next] == '=';
-            token = signOf(c, equals);
+            token = signOf(c, next < size && bytes[next] == '=');
             if (token == EQUAL || token == UNEQUAL || token == LESS_OR_EQUAL) {
                 next++;
             }
@@ -635,16 +637,8 @@ public final class TapeHouse {
             return token == LET || token == KEEP || token == MASK;
         }
 
-        private static boolean isVar(int token) {
-            return token >= KIND && token <= OWN;
-        }
-
         private static boolean startsUnit(int token) {
             return token == INT || token == OPEN || isVar(token);
-        }
-
-        private static boolean isOperator(int token) {
-            return token == PLUS || token == MINUS || token == TIMES;
         }
 
         private static boolean isComparison(int token) {
@@ -899,7 +893,7 @@ public final class TapeHouse {
         }
 
         void give(int variable, int value) {
-            if (variable >= KIND && variable <= OWN) {
+            if (isVar(variable)) {
                 vars[variable - KIND] = value;
             }
         }
@@ -915,15 +909,13 @@ public final class TapeHouse {
 
         void takeCell(int cell) {
             int token = cell - Consent.FIRST_CODE;
-            if (token < 0) {
-                push(cell);
-            } else if (token >= KIND && token <= OWN) {
-                push(vars[token - KIND]);
-            } else {
+            if (isOperator(token)) {
                 int second = pop();
                 int first = pop();
                 push(token == PLUS ? first + second
                     : token == MINUS ? first - second : first * second);
+            } else {
+                push(isVar(token) ? vars[token - KIND] : cell);
             }
         }
 
