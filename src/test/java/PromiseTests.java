@@ -37,6 +37,7 @@ public final class PromiseTests {
         behind();
         same();
         left();
+        longChains();
         when();
         count();
         CHECK.end();
@@ -115,6 +116,8 @@ public final class PromiseTests {
         due("its place: what was fed last stands last", house.place(), 1999);
         due("bytes after", house.count(7), 0);
         due("back of nothing", house.back(1), NONE);
+        house.feed(1, 2, 3, 4, 5);
+        due("back of all", house.back(20), 0);
         // The highest byte of the first number comes first.
         due("feed let;", house.feed(0x6C65743B, 0x20202020, 0x20202020, 0x20202020, 0x20202020), 20);
         due("read let;", house.read(0), 0);
@@ -147,6 +150,12 @@ public final class PromiseTests {
         fault("let abcdefghi;", 1, 4);
         fault("letif", 1, 0);
         fault("lets;", 1, 0);
+        fault("letz;", 1, 0);
+        fault("leta;", 1, 0);
+        fault("let{", 1, 3);
+        fault("let`", 1, 3);
+        fault("let if 1/2", 1, 8);
+        fault("let if 1:2", 1, 8);
         fault("le;", 1, 0);
         fault("let if 9999<=0001;", 0, NONE);
         fault("let if 10000<1;", 1, 7);
@@ -265,6 +274,15 @@ public final class PromiseTests {
         due("let anew", house.let(0, 60, 0, 0), 1);
         due("empty read", house.read(0), 0);
         due("without rules", house.let(0, 60, 0, 0), -3);
+        // Nothing of the texts ahead is left, of bad ones neither.
+        String[] ahead = {"let if ((((1+2*(3", "keep if 1 < 2 and 7 == 7 or", "mask if 2*2 < 3 + age;", "let if 5 < 1 + (2 - "};
+        for (String text : ahead) {
+            Check.read(house, 0, text);
+            due("read after " + text, Check.read(house, 0, "keep if (1+1)*2 == 5; let if 2+2*2 == 6 and in 0; keep;"), 0);
+            due("let after " + text, house.let(0, 60, 0, 0), 1);
+            due("read after " + text, Check.read(house, 0, "keep if 1 == 2; keep; let;"), 0);
+            due("kept after " + text, house.let(0, 60, 0, 0), -2);
+        }
     }
 
     private static void persons() {
@@ -342,8 +360,8 @@ public final class PromiseTests {
         due("no such traits", house.piece(0, 20, 30, 0, 1, -1), NONE);
         due("tells of nobody", house.piece(0, 20, 30, 0, NONE, 1), NONE);
         due("pieces", house.count(3), 1);
-        due("next to it", house.piece(0, 10, 11, 0, NONE, 0), 1);
-        due("tells nothing", house.piece(0, 99, 100, 0, 0, 0), 2);
+        due("tells nothing, up to the end", house.piece(0, 99, 100, 0, 0, 0), 1);
+        due("between two", house.piece(0, 10, 99, 0, NONE, 0), 2);
         house.tape(1, 0, 100);
         due("of another tape", house.piece(1, 0, 10, 0, 0, 15), 3);
         for (int i = 4; i < 30; i++) {
@@ -432,6 +450,9 @@ public final class PromiseTests {
         due("no such use", house.let(0, 60, 0, 4), NONE);
         due("no such use", house.let(0, 60, 0, -1), NONE);
         due("only masks", houseWith("mask;").let(0, 60, 0, 0), -3);
+        String many = times("let if in 0 and 2 == 1;", 15);
+        due("the 16th rule", houseWith(many + "let if in 0;").let(0, 60, 0, 0), 15);
+        due("the 16th rule", houseWith(many + "let if 2 == 1;").let(0, 60, 0, 0), -3);
     }
 
     private static void holds(String condition, boolean want) {
@@ -520,6 +541,7 @@ public final class PromiseTests {
         due("no such kind", house.mask(0, 60, 4, 2), NONE);
         due("no such use", house.mask(0, 60, 1, 4), NONE);
         due("though kept", houseWith("keep; mask;").mask(0, 60, 0, 0), 1);
+        due("ahead of others", houseWith("mask if in 0; mask;").mask(0, 60, 0, 0), 0);
     }
 
     private static void would() {
@@ -655,6 +677,10 @@ public final class PromiseTests {
         due("one more", house.could(0, 1), 4);
         house.ask(0, 1, NONE, 9, 2);
         due("with its name", house.could(0, 1), 1);
+        house.ask(1, 0, NONE, 9, 0);
+        due("by the first piece", house.could(1, 1), 1);
+        house.ask(1, 5, NONE, 9, 0);
+        due("by the last piece", house.could(1, 0), 1);
         due("no such asker", house.could(2, 1), NONE);
         due("no such asker", house.could(-1, 1), NONE);
         due("no such person", house.could(0, 5), NONE);
@@ -828,6 +854,32 @@ public final class PromiseTests {
         due("pushed off the end", house.left(10), 512);
         house.same(0, 9);
         due("a link of the chain alone mends both", house.left(11), 256);
+    }
+
+    /** Chains told from their far end on, so that a day is pushed by one telling a time. */
+    private static void longChains() {
+        TapeHouse house = new TapeHouse();
+        for (int event = 0; event < 9; event++) {
+            house.behind(event, event + 1, 1110);
+        }
+        house.span(9, 9, 9999);
+        due("a chain", house.left(10), 0);
+        due("its end", house.when(0, 10, 0), 9999);
+        due("its middle", house.when(5, 10, 0), 9 + 4 * 1110);
+        house.behind(9, 0, -9990);
+        due("a ring that holds", house.left(11), 0);
+        house.behind(9, 0, -9989);
+        due("a ring that does not", house.left(12), 2048);
+        house = new TapeHouse();
+        for (int event = 0; event < 9; event++) {
+            house.behind(event + 1, event, 1110);
+        }
+        house.span(9, 0, 9990);
+        due("a chain", house.left(10), 0);
+        due("its start", house.when(0, 10, 1), 0);
+        due("its middle", house.when(4, 10, 1), 4440);
+        house.span(0, 1, 1);
+        due("pushed off its end", house.left(11), 1024);
     }
 
     private static void when() {
