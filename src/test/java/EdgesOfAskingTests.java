@@ -54,6 +54,7 @@ public final class EdgesOfAskingTests {
         takenByLag();
         takenOnTheLastDays();
         takenFirst();
+        askedAtEachPlace();
         boundEdges();
         boundOfTwelve();
         boundBeyondTheTown();
@@ -356,6 +357,29 @@ public final class EdgesOfAskingTests {
         script.consent(0, "keep if use == 1; let; mask;").due("would(0, 0, NONE, 59, 1)", 1).due("would(0, 0, NONE, 60, 1)", 0);
         script.due("would(0, 0, NONE, 59, 0)", 4).due("would(0, 0, NONE, 60, 0)", 0).consent(0, "let;").due("would(0, 0, NONE, 59, 0)", 2);
         script.consent(0, "mask;").due("would(0, 0, NONE, 59, 0)", 1).consent(0, "keep; mask;").due("would(0, 0, NONE, 59, 0)", 1);
+    }
+
+    private static void askedAtEachPlace() {
+        String sentence = "ASKING on a DAY at a COPY (or, NONE, in the house), for a use, for a PIECE:";
+        Script script = EDGES.house(sentence).given("asker(2)", "person(1, 1, 1, 1)", "copy(0)", "copy(1)", "copy(400)", "copy(7)");
+        script.consent(0, "keep if age < 20; let if use < 3; mask if use == 1;");
+        // Where it is asked counts for what was taken back alone.
+        for (int copy = -1; copy < 4; copy++) {
+            String where = "would(0, 0, " + copy + ", ";
+            script.due(where + "69, 0)", 1).due(where + "70, 0)", 2).due(where + "70, 1)", 3).due(where + "70, 3)", 1);
+        }
+        script.given("takes(0, 75)");
+        int[] lags = {0, 0, 1, 400, 7};
+        for (int copy = -1; copy < 4; copy++) {
+            String where = "would(0, 0, " + copy + ", ";
+            int gone = 75 + lags[copy + 1];
+            script.due(where + (gone - 1) + ", 0)", 2).due(where + (gone - 1) + ", 1)", 3).due(where + (gone - 1) + ", 3)", 1);
+            script.due(where + gone + ", 0)", 0).due(where + gone + ", 1)", 0).due(where + gone + ", 3)", 0);
+        }
+        // What was heard at a copy that lags was heard.
+        EDGES.house("Else it hears it MASKED.").given("asker(0)", "person(1, 1, 1, 1)", "copy(10)", "takes(0, 75)").consent(0, "let; mask;")
+            .due("ask(0, 0, NONE, 80, 0)", 0).due("heard(0, 0)", 0).due("could(0, 1)", 3).due("ask(0, 0, 0, 84, 0)", 3).due("heard(0, 0)", 3)
+            .due("could(0, 1)", 2).due("ask(0, 0, 0, 85, 0)", 0).due("heard(0, 0)", 3).due("seconds(0, 0)", 10);
     }
 
     /** A town of the given persons, of whom the first is spoken of; each piece tells some traits of it. */

@@ -36,6 +36,7 @@ public final class EdgesOfTellingsTests {
         oneOfTwo();
         fewestFirst();
         greatestNumberFirst();
+        twoSidesAsMany();
         allButOne();
         leftOutDoNotCount();
         freeEvents();
@@ -270,6 +271,25 @@ public final class EdgesOfTellingsTests {
             script.given("span(" + i % 6 + ", " + i + ", " + i + ")");
         }
         script.due("left(12)", 0b1111_1100_0000).due("left(6)", 0).due("left(7)", 64);
+    }
+
+    /** Half say one day, half another: out go those of whom the last one is, whoever else is with it. */
+    private static void twoSidesAsMany() {
+        for (int half = 1; half <= 6; half++) {
+            int last = 1 << 2 * half - 1;
+            for (int side = 0; side < 2 * last; side++) {
+                // Of the longest runs every seventh is enough.
+                if (Integer.bitCount(side) == half && (half < 6 || side % 7 == 0)) {
+                    Script script = EDGES.of(FEWEST);
+                    for (int i = 0; i < 2 * half; i++) {
+                        script.given((side >> i & 1) == 1 ? "span(4, 30, 35)" : "span(4, 10, 15)");
+                    }
+                    boolean goes = (side & last) != 0;
+                    script.due("left(" + 2 * half + ")", goes ? side : ~side & 2 * last - 1);
+                    script.due("when(4, " + 2 * half + ", 0)", goes ? 10 : 30).due("when(4, " + 2 * half + ", 1)", goes ? 15 : 35);
+                }
+            }
+        }
     }
 
     private static void allButOne() {

@@ -42,6 +42,9 @@ public final class EdgesOfTextsTests {
         words();
         ints();
         signs();
+        longestThatCanBe();
+        longerOnes();
+        eachVar();
         eachTokenInEachState();
         endInEachState();
         tokenRoom();
@@ -272,6 +275,62 @@ public final class EdgesOfTextsTests {
         // An = that went with back() is no part of a sign.
         EDGES.house(SIGNS).text("let if 1<=").given("back(1)").text("2;").due("read(0)", 0).due("let(0, 60, 0, 0)", 0);
         EDGES.house(SIGNS).text("let if 1==").given("back(1)").due("read(0)", SYNTAX).due("place()", 8);
+    }
+
+    private static void longestThatCanBe() {
+        String sentence = "TOKENS, the longest that can be, with blanks (9, 10, 13, 32) between or not";
+        // Cut shorter, the words would go on: 'let' 'if', 'if' 'in', 'or' 'in', 'and' 'kind'.
+        reads(sentence, "letif 1<2;", SYNTAX, 0);
+        reads(sentence, "let ifin 0;", SYNTAX, 4);
+        reads(sentence, "let if inn 0;", SYNTAX, 7);
+        reads(sentence, "let if in 0 orin 0;", SYNTAX, 12);
+        reads(sentence, "let if kinduse<1;", SYNTAX, 7);
+        reads(sentence, "let if 1<2and1<2;", 0, NONE);
+        reads(sentence, "let if 1<2andkind<2;", SYNTAX, 10);
+        reads(sentence, "let if in00and in000or in0000;", 0, NONE);
+        EDGES.house(sentence).consent(0, "keep if 12!=10+2;keep if 1<=0;keep if 2<1;let if 1<=1and 3<=4;").due("let(0, 60, 0, 0)", 3);
+    }
+
+    /** A longer one is none from its first byte on, though what it begins with would go on. */
+    private static void longerOnes() {
+        String sentence = "A longer one, all else, is no TOKEN.";
+        for (String word : new String[] {"letletlet", "keepkeepk", "maskmaskmask", "letabcdef", "let".repeat(600)}) {
+            reads(sentence, word + ";", SYNTAX, 0);
+            reads(sentence, "let;" + word + ";", SYNTAX, 4);
+            reads(sentence, "let;\n" + word, SYNTAX, 5);
+        }
+        for (String word : new String[] {"kindkindk", "useabcdefgh", "ageageage", "deaddeadd", "piecepiece", "namesnames", "ownownown", "ininininin"}) {
+            reads(sentence, "let if " + word + " == 1;", SYNTAX, 7);
+            reads(sentence, "let if 1 == (" + word + ");", SYNTAX, 13);
+            reads(sentence, "let if in 0 and " + word + ";", SYNTAX, 16);
+        }
+        reads(sentence, "let ififififi in 0;", SYNTAX, 4);
+        reads(sentence, "let if in 0 andandand in 0;", SYNTAX, 12);
+        reads(sentence, "let if in 0 ororororo in 0;", SYNTAX, 12);
+        for (String digits : new String[] {"00000", "12345", "0".repeat(400), "4294967297", "99999999999999999999"}) {
+            reads(sentence, "let if " + digits + "<1;", SYNTAX, 7);
+            reads(sentence, "let if 1+" + digits + "<1;", SYNTAX, 9);
+            reads(sentence, "let if 1<(" + digits + ");", SYNTAX, 10);
+            reads(sentence, "let if in 0 or in " + digits + ";", SYNTAX, 18);
+            reads(sentence, "let if kind" + digits + "<1;", SYNTAX, 11);
+        }
+    }
+
+    private static void eachVar() {
+        String sentence = "VAR: 'kind' | 'use' | 'age' | 'dead' | 'piece' | 'names' | 'own'.";
+        // Piece 1 names its speaker; on day 60 it is 10 days old, and the speaker is 5 days dead.
+        String[] vars = {"kind", "use", "age", "dead", "piece", "names", "own"};
+        int[] values = {3, 2, 10, 5, 1, 0, 1};
+        for (int i = 0; i < vars.length; i++) {
+            Script script = EDGES.house(sentence).given("piece(0, 10, 20, 0, 0, 0)", "dies(0, 55)");
+            script.consent(0, "keep if " + vars[i] + " != " + values[i] + "; let if " + values[i] + " == " + vars[i] + ";").due("let(1, 60, 3, 2)", 1);
+            script.consent(0, "mask if 2*(" + vars[i] + "+1)+" + vars[i] + "*" + vars[i] + " == " + (2 * (values[i] + 1) + values[i] * values[i]) + ";");
+            script.due("mask(1, 60, 3, 2)", 0);
+        }
+        for (String word : new String[] {"let", "keep", "mask", "if", "or", "and", "day", "death", "name", "topic", "asker"}) {
+            reads(sentence, "let if " + word + " == 1;", SYNTAX, 7);
+            reads(sentence, "let if 1 == " + word + ";", SYNTAX, 12);
+        }
     }
 
     private static final String HEADS = "let keep mask";

@@ -29,12 +29,20 @@ public final class LanguageTests {
         "int left(int)", "int when(int,int,int)", "int count(int)"));
 
     public static void main(String[] args) throws Exception {
+        faceOfTheDocument();
         face();
         classesInside();
         words();
         room();
         anyArguments();
         CHECK.end();
+    }
+
+    /** The names of the public methods. */
+    static Set<String> names() {
+        Set<String> names = new TreeSet<>();
+        FACE.forEach(method -> names.add(method.replaceAll(".* |\\(.*", "")));
+        return names;
     }
 
     private static void holds(String what, boolean holds) {
@@ -47,6 +55,23 @@ public final class LanguageTests {
             text.append(text.charAt(text.length() - 1) == '(' ? "" : ",").append(type);
         }
         return text.append(")").toString();
+    }
+
+    /** FACE is what the document's block of Java says, but for the names of arguments. */
+    private static void faceOfTheDocument() throws IOException {
+        String path = System.getProperty("tapehouse.document");
+        if (path == null) {
+            return;
+        }
+        String document = Files.readString(Path.of(path));
+        Set<String> methods = new TreeSet<>();
+        Matcher matcher = Pattern.compile("public (int|boolean) (\\w+)\\(([^)]*)\\);").matcher(document);
+        while (matcher.find()) {
+            String types = matcher.group(3).replaceAll(" \\w+(, |$)", "$1").replace(", ", ",");
+            methods.add(matcher.group(1) + " " + matcher.group(2) + "(" + types + ")");
+        }
+        holds("the document's face: " + methods, methods.equals(FACE));
+        holds("NONE is the document's", document.contains("public static final int NONE = " + TapeHouse.NONE + ";"));
     }
 
     private static void face() throws Exception {
@@ -69,8 +94,7 @@ public final class LanguageTests {
     }
 
     private static void classesInside() {
-        Set<String> publicNames = new TreeSet<>();
-        FACE.forEach(method -> publicNames.add(method.replaceAll(".* |\\(.*", "")));
+        Set<String> publicNames = names();
         Class<?>[] inside = TapeHouse.class.getDeclaredClasses();
         holds("at most twelve classes", inside.length + 1 <= 12);
         for (Class<?> one : inside) {
